@@ -109,8 +109,7 @@ public final class KnotSigns {
         if (from == null || to == null) {
             return UNKNOWN;
         }
-        slides.spread(from, now.letters());
-        return slides.stepsTo(to);
+        return slides.stepsBetween(from, to, now.letters());
     }
 
     public int shortest(int man, int i) {
@@ -714,28 +713,35 @@ public final class KnotSigns {
         private int reached;
         private int letters;
 
-        /** Begins at this very row; what was found last stands if it began there, too. */
-        void spread(Row from, int ofLetters) {
-            if (letters == ofLetters && reached > 0 && numbers[0] == numberOf(from)) {
-                return;
+        /** What was found last stands if it began at one of both: each slide can be taken back. */
+        int stepsBetween(Row from, Row to, int ofLetters) {
+            if (beganAt(to, ofLetters)) {
+                return stepsTo(from);
             }
+            if (!beganAt(from, ofLetters)) {
+                spread(from, ofLetters);
+            }
+            return stepsTo(to);
+        }
+
+        /** What was found last stands if it began at any row that is the same knot. */
+        void gather(Row from, int ofLetters) {
+            if (letters != ofLetters || !has(from)) {
+                spread(from, ofLetters);
+            }
+        }
+
+        private boolean beganAt(Row knot, int ofLetters) {
+            return letters == ofLetters && reached > 0 && numbers[0] == numberOf(knot);
+        }
+
+        private void spread(Row from, int ofLetters) {
             forget();
             letters = ofLetters;
             reach(numberOf(from), 0);
             for (int next = 0; next < reached && next < MOST_REACHED; next++) {
                 read(numbers[next], here);
-                int step = steps[next] + 1;
-                undoAll(step);
-                tieAll(step);
-                swapAll(step);
-                turnAll(step);
-            }
-        }
-
-        /** As spread, but it may have begun at any row that is the same knot. */
-        void gather(Row from, int ofLetters) {
-            if (letters != ofLetters || !has(from)) {
-                spread(from, ofLetters);
+                slideAll(steps[next] + 1);
             }
         }
 
@@ -743,7 +749,7 @@ public final class KnotSigns {
             return isMarked(numberOf(knot));
         }
 
-        int stepsTo(Row knot) {
+        private int stepsTo(Row knot) {
             int number = numberOf(knot);
             for (int i = 0; i < reached && i < MOST_REACHED; i++) {
                 if (numbers[i] == number) {
@@ -773,7 +779,7 @@ public final class KnotSigns {
 
         private boolean isMarked(int number) {
             int word = number / BITS;
-            return number >= 0 && word < marks.length && (marks[word] >> number % BITS & 1) != 0;
+            return number >= 0 && word < marks.length && ((marks[word] >> (number % BITS)) & 1) != 0;
         }
 
         private void reach(int number, int step) {
@@ -781,7 +787,7 @@ public final class KnotSigns {
             if (number < 0 || word >= marks.length || reached >= MOST_REACHED || isMarked(number)) {
                 return;
             }
-            marks[word] |= 1 << number % BITS;
+            marks[word] |= 1 << (number % BITS);
             numbers[reached] = number;
             steps[reached] = step;
             reached++;
@@ -795,7 +801,7 @@ public final class KnotSigns {
             return number;
         }
 
-        /** The number of the row that has one sign more at its end. */
+        /** The number of the row that has one sign more at its end; NO_SIGN adds none. */
         private int longer(int number, int sign) {
             return sign < 0 ? number : number * 2 * letters + sign + 1;
         }
@@ -814,7 +820,7 @@ public final class KnotSigns {
             }
         }
 
-        /** The row reached from here if signs from a place on give way to others (or to NO_SIGN: none). */
+        /** Reaches the row in which signs from a place on give way to x, y, z (NO_SIGN: to none). */
         private void change(int place, int gone, int x, int y, int z, int step) {
             int number = 0;
             for (int i = 0; i < place; i++) {
@@ -831,15 +837,10 @@ public final class KnotSigns {
             return sign < letters ? sign + letters : sign - letters;
         }
 
-        private void undoAll(int step) {
+        private void slideAll(int step) {
             for (int i = 0; i + 1 < here.size; i++) {
-                if (here.at(i + 1) == opposite(here.at(i))) {
-                    change(i, 2, NO_SIGN, NO_SIGN, NO_SIGN, step);
-                }
+                slideAt(i, step);
             }
-        }
-
-        private void tieAll(int step) {
             for (int i = 0; i <= here.size && here.size + 2 <= MOST_CROSSINGS; i++) {
                 for (int sign = 0; sign < 2 * letters; sign++) {
                     change(i, 0, sign, opposite(sign), NO_SIGN, step);
@@ -847,23 +848,20 @@ public final class KnotSigns {
             }
         }
 
-        private void swapAll(int step) {
-            for (int i = 0; i + 1 < here.size; i++) {
-                int apart = letterOf(here.at(i), letters) - letterOf(here.at(i + 1), letters);
-                if (apart == 2 || apart == -2) {
-                    change(i, 2, here.at(i + 1), here.at(i), NO_SIGN, step);
-                }
+        /** Two letters side by side can be undone if they are one, swapped if two apart, else begin a turn. */
+        private void slideAt(int i, int step) {
+            int first = here.at(i);
+            int second = here.at(i + 1);
+            int apart = Math.abs(letterOf(first, letters) - letterOf(second, letters));
+            if (apart == 0 && first != second) {
+                change(i, 2, NO_SIGN, NO_SIGN, NO_SIGN, step);
             }
-        }
-
-        private void turnAll(int step) {
-            for (int i = 0; i + 2 < here.size; i++) {
-                int outer = here.at(i);
-                int middle = here.at(i + 1);
-                boolean alike = worth(outer, letters) == worth(middle, letters) && here.at(i + 2) == outer;
-                if (alike && (middle == outer + 1 || middle == outer - 1)) {
-                    change(i, 3, middle, outer, middle, step);
-                }
+            if (apart == 2) {
+                change(i, 2, second, first, NO_SIGN, step);
+            }
+            boolean alike = worth(first, letters) == worth(second, letters);
+            if (apart == 1 && alike && here.at(i + 2) == first) {
+                change(i, 3, second, first, second, step);
             }
         }
     }
