@@ -168,6 +168,11 @@ public final class PromiseTest {
         due("p7 men", x.told(2), 1);
         due("p7 twice", x.drown(1), UNKNOWN);
         dueRow(x, 0, "a");
+        due("p7 drown the first", x.drown(0), 1);
+        due("p7 nobody", x.told(2), 0);
+        teach(x, 5, "a");
+        due("p7 drown the last", x.drown(5), 1);
+        due("p7 nobody", x.told(2), 0);
     }
 
     private static void p08Row() {
@@ -212,6 +217,21 @@ public final class PromiseTest {
         dueSame("aaaaaa", "AAAAAA", NONE);
         dueSame("abABab", "abABab", 0);
         KnotSigns x = men("a", "a");
+        x = men("", "aA", "ab", "aAab", "c", "CCCCCC");
+        int[][] want = {{0, 1, NONE, NONE, NONE, NONE}, {1, 0, NONE, NONE, NONE, NONE}, {NONE, NONE, 0, 1, NONE, NONE},
+            {NONE, NONE, 1, 0, NONE, NONE}, {NONE, NONE, NONE, NONE, 0, NONE}, {NONE, NONE, NONE, NONE, NONE, 0}};
+        for (int all = 0; all < 72; all++) {
+            int man = all * 7 % 36 / 6;
+            int other = all * 7 % 6;
+            due("p9 " + man + " to " + other, x.same(man, other), want[man][other]);
+        }
+        x = men("", "cC");
+        due("p9 of 4 cords", x.same(0, 1), 1);
+        x.cords(2);
+        x.teach(0);
+        teach(x, 1, "aA");
+        due("p9 then of 2 cords", x.same(0, 1), 1);
+        x = men("a", "a");
         due("p9 none there", x.same(0, 2), UNKNOWN);
         due("p9 none there", x.same(2, 0), UNKNOWN);
         due("p9 none", x.same(-1, 0), UNKNOWN);
@@ -236,6 +256,14 @@ public final class PromiseTest {
         due("p10 man", x.shortest(-1, -1), UNKNOWN);
         due("p10 man", x.shortest(6, -1), UNKNOWN);
         dueRow(x, 0, "aAbBc");
+        x = men("c", "CCCCCC", "bA", "cbaCBA");
+        due("p10 the shortest itself", x.shortest(0, -1), 1);
+        due("p10 the shortest itself", x.shortest(0, 0), 'c');
+        due("p10 alone", x.shortest(1, -1), 6);
+        due("p10 alone", x.shortest(1, 5), 'C');
+        due("p10 bA itself", x.shortest(2, -1), 2);
+        due("p10 bA itself", x.shortest(2, 0), 'b');
+        due("p10 bA itself", x.shortest(2, 1), 'A');
     }
 
     private static void p11Rows() {
@@ -243,6 +271,8 @@ public final class PromiseTest {
         due("p11 none of 4 cords", x.rows(0), 1245);
         due("p11 alone", x.rows(1), 1);
         due("p11 three of each", x.rows(2), 20);
+        teach(x, 5, "CCCCCC");
+        due("p11 the last row of all", x.rows(5), 1);
         due("p11 man", x.rows(4), UNKNOWN);
         due("p11 man", x.rows(6), UNKNOWN);
         due("p11 man", x.rows(LOW), UNKNOWN);
@@ -535,6 +565,16 @@ public final class PromiseTest {
         due("p23 alike 2", x.descent(3, 2), 3);
         due("p23 alike 4", x.descent(3, 4), 0);
         due("p23 alike 5", x.descent(3, 5), 0);
+        // Who is drowned is nobody's master; who is taught anew has other slips.
+        x.drown(1);
+        x.drown(4);
+        teach(x, 5, "abcabc");
+        due("p23 fewer men", x.descent(2, -1), 7);
+        due("p23 fewer men 0", x.descent(2, 0), 2);
+        due("p23 fewer men 3", x.descent(2, 3), 0);
+        due("p23 fewer men 5", x.descent(2, 5), 0);
+        due("p23 drowned", x.descent(2, 1), UNKNOWN);
+        due("p23 drowned", x.descent(1, -1), UNKNOWN);
         x = men(null, null, "a");
         due("p23 alone", x.descent(2, -1), 0);
         due("p23 alone", x.descent(2, 2), UNKNOWN);
@@ -552,6 +592,14 @@ public final class PromiseTest {
         due("p24 of three", x.year(0, 1, 1, 1), 101);
         due("p24 of three", x.year(0, 2, 1, 0), 1);
         due("p24 of three", x.year(0, 2, 1, 1), 103);
+        // aaa becomes BaB, abcABC becomes aCcACa, and aaABCB behind the other seed
+        due("p24 of three, 99 slips", x.year(77, 99, 1, 0), 2);
+        due("p24 of three, 99 slips", x.year(77, 99, 1, 1), 99);
+        due("p24 of six, 99 slips", x.year(9999, 99, 3, 0), 3);
+        due("p24 of six, 99 slips", x.year(9999, 99, 3, 1), 100);
+        due("p24 of six, 98 slips", x.year(4711, 98, 3, 0), 5);
+        due("p24 of six, 98 slips", x.year(4711, 98, 3, 1), 98);
+        dueRow(x, 3, "abcABC");
         due("p24 none", x.year(9999, 0, 3, 0), 0);
         due("p24 none", x.year(9999, 0, 3, 1), 100);
         due("p24 no crossing", x.year(9999, 99, 2, 0), 0);
@@ -590,6 +638,17 @@ public final class PromiseTest {
         dueRow(x, 0, "abc");
         x.restore(0);
         dueRow(x, 0, "C");
+        x.burn();
+        pad(x, "bb");
+        x.scrap();
+        pad(x, "b");
+        x.scrap();
+        x.restore(0);
+        due("p25 scraps are kept", x.told(3), 1);
+        due("p25 scraps are kept", x.who(), 0);
+        teach(x, 2, "ac");
+        due("p25 the scrap is c", x.who(), 4);
+        x.restore(0);
         x.drown(1);
         due("p25 kept anew", x.image(1), 1);
         x.restore(0);

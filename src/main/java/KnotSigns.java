@@ -746,7 +746,9 @@ public final class KnotSigns {
         }
 
         boolean has(Row knot) {
-            return isMarked(numberOf(knot));
+            int number = numberOf(knot);
+            int word = number / BITS;
+            return number >= 0 && word < marks.length && (marks[word] & 1 << number % BITS) != 0;
         }
 
         private int stepsTo(Row knot) {
@@ -777,17 +779,13 @@ public final class KnotSigns {
             reached = 0;
         }
 
-        private boolean isMarked(int number) {
-            int word = number / BITS;
-            return number >= 0 && word < marks.length && ((marks[word] >> (number % BITS)) & 1) != 0;
-        }
-
         private void reach(int number, int step) {
             int word = number / BITS;
-            if (number < 0 || word >= marks.length || reached >= MOST_REACHED || isMarked(number)) {
+            int bit = 1 << number % BITS;
+            if (number < 0 || word >= marks.length || reached >= MOST_REACHED || (marks[word] & bit) != 0) {
                 return;
             }
-            marks[word] |= 1 << (number % BITS);
+            marks[word] |= bit;
             numbers[reached] = number;
             steps[reached] = step;
             reached++;
